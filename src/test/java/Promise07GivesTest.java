@@ -6,8 +6,11 @@ final class Promise07GivesTest {
     public static void main(String[] args) {
         doublings();
         wallsThatCutAndThatDoNot();
+        missedByTheLeast();
         wallAtOnePoint();
         inAnyOrder();
+        wallBeforeTheRest();
+        eachPairForItself();
         greatestCutAlone();
         notBelowNothing();
         wrongNumbers();
@@ -62,6 +65,30 @@ final class Promise07GivesTest {
         run.due(want, "gives", 0, 0, 0).due(want, "gives", 1, 1, 0);
     }
 
+    /** (1, 1) is as near to the line from (0, 0) to (3, 2) as a point can be that isn't on it. */
+    private static void missedByTheLeast() {
+        int[] aside = {1, 1, 0, 5};
+        int[] along = {0, 0, 3, 2};
+        for (int mirrored = 1; mirrored >= -1; mirrored -= 2) {
+            for (int[] way : new int[][] {aside, turned(aside)}) {
+                for (int[] wall : new int[][] {along, turned(along)}) {
+                    goOneWay(way, wall, mirrored);
+                    goOneWay(wall, way, mirrored);
+                }
+            }
+        }
+    }
+
+    private static int[] turned(int[] line) {
+        return new int[] {line[2], line[3], line[0], line[1]};
+    }
+
+    private static void goOneWay(int[] way, int[] wall, int mirrored) {
+        Run run = new Run();
+        run.due(0, "piece", way[0], mirrored * way[1], HIGH, 0, 0).due(0, "house", way[2], mirrored * way[3], 1);
+        run.due(0, "wall", wall[0], mirrored * wall[1], wall[2], mirrored * wall[3], CUT).due(HIGH, "gives", 0, 0, 0);
+    }
+
     private static void wallAtOnePoint() {
         Run run = new Run();
         run.due(0, "wall", 0, 0, 10, 4, CUT);
@@ -96,6 +123,36 @@ final class Promise07GivesTest {
             run.due(0, "house", 10, 0, 1).due(1, "house", 0, 10, 1);
         } else {
             run.due(0, "wall", 5, -1, 5, 1, CUT);
+        }
+    }
+
+    /** The wall would stand between, if what came later stood at (0, 0). */
+    private static void wallBeforeTheRest() {
+        Run house = new Run();
+        house.due(0, "piece", 10, 0, HIGH, 0, 0).due(0, "wall", 5, -1, 5, 1, CUT).due(0, "house", 19, 0, 1);
+        house.due(HIGH, "gives", 0, 0, 0);
+        Run piece = new Run();
+        piece.due(0, "house", 10, 0, 1).due(0, "wall", 5, -1, 5, 1, CUT).due(0, "piece", 19, 0, HIGH, 0, 0);
+        piece.due(HIGH, "gives", 0, 0, 0);
+    }
+
+    /** Twelve pieces and twenty houses on a line, a wall across it between the sixth and the seventh piece. */
+    private static void eachPairForItself() {
+        Run run = new Run();
+        for (int piece = 0; piece < 12; piece++) {
+            run.due(piece, "piece", 100 * piece, 0, HIGH, 0, 0);
+        }
+        for (int house = 0; house < 20; house++) {
+            run.due(house, "house", 60 * house, 0, 1);
+        }
+        run.due(0, "wall", 550, -1, 550, 1, CUT);
+        for (int piece = 0; piece < 12; piece++) {
+            for (int house = 0; house < 20; house++) {
+                int apart = Math.abs(100 * piece - 60 * house);
+                int doublings = apart < 20 ? 0 : (int) (Math.log(apart / 10.0) / Math.log(2) + 1e-9);
+                int cut = 100 * piece < 550 == 60 * house < 550 ? 0 : CUT;
+                run.due(HIGH - 30 * doublings - cut, "gives", piece, house, 0);
+            }
         }
     }
 

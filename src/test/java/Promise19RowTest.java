@@ -5,6 +5,7 @@
 final class Promise19RowTest {
     public static void main(String[] args) {
         fourAnswers();
+        eachAskedFirst();
         placesAndPoles();
         brightest();
         wrongNumbers();
@@ -21,6 +22,15 @@ final class Promise19RowTest {
             run.due(100, "dim", hour, 10);
         }
         run.due(14, "row", 40, 0).due(62, "row", 40, 1).due(225, "row", 40, 2).due(2, "row", 40, 3);
+    }
+
+    private static void eachAskedFirst() {
+        int[] wants = {14, 62, 225, 2};
+        for (int what = 0; what < 4; what++) {
+            Run run = new Run();
+            run.due(0, "lamp", 0, 100).due(0, "lamp", 10, 50).due(0, "lamp", 20, 7).due(0, "road", 40);
+            run.due(wants[what], "row", 40, what);
+        }
     }
 
     private static void placesAndPoles() {
