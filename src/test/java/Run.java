@@ -1,19 +1,24 @@
 import java.lang.reflect.InvocationTargetException;
 import java.lang.reflect.Method;
 import java.util.Arrays;
+import java.util.HashMap;
+import java.util.Map;
 
 /** A run of calls on a new object: each call is told by its name and numbers, with the answer that is due. */
 final class Run {
     static final int BAD = -1;
+    static final int MOST_CALLS = 512;
 
-    private static int calls = 0;
+    private static final Map<String, Method> METHODS = methods();
+    private static int looked = 0;
     private static int wrong = 0;
 
     private final NoiseLamps object = new NoiseLamps();
+    private int calls = 0;
 
     Run due(int want, String name, int... numbers) {
         int got = answer(name, numbers);
-        calls++;
+        looked++;
         if (got != want) {
             wrong++;
             System.out.println(name + Arrays.toString(numbers) + " answered " + got + ", due is " + want);
@@ -23,6 +28,15 @@ final class Run {
 
     /** What a call answers, for what is compared with something else than one number. */
     int answer(String name, int... numbers) {
+        calls++;
+        if (calls > MOST_CALLS) {
+            throw new IllegalStateException("the document promises nothing after " + MOST_CALLS + " calls");
+        }
+        return anyAnswer(name, numbers);
+    }
+
+    /** The same, also after the last call for which something is promised. */
+    int anyAnswer(String name, int... numbers) {
         try {
             Object[] given = Arrays.stream(numbers).boxed().toArray();
             return (int) named(name).invoke(object, given);
@@ -35,27 +49,47 @@ final class Run {
 
     /** Anything else that a test holds to be so. */
     static void holds(boolean so, String what) {
-        calls++;
+        looked++;
         if (!so) {
             wrong++;
             System.out.println("not so: " + what);
         }
     }
 
+    int calls() {
+        return calls;
+    }
+
+    /** How many answers, and other things, have been looked at in this test. */
+    static int looked() {
+        return looked;
+    }
+
+    /** How many of them were wrong. */
+    static int wrong() {
+        return wrong;
+    }
+
     /** Each test's main method ends with this. */
     static void end() {
-        System.out.println(calls + " looked at, " + wrong + " wrong");
-        if (wrong != 0 || calls == 0) {
+        System.out.println(looked + " looked at, " + wrong + " wrong");
+        if (wrong != 0 || looked == 0) {
             System.exit(1);
         }
     }
 
     private static Method named(String name) {
-        for (Method method : NoiseLamps.class.getMethods()) {
-            if (method.getName().equals(name) && method.getDeclaringClass() == NoiseLamps.class) {
-                return method;
-            }
+        if (!METHODS.containsKey(name)) {
+            throw new IllegalStateException("there is no method " + name);
         }
-        throw new IllegalStateException("there is no method " + name);
+        return METHODS.get(name);
+    }
+
+    private static Map<String, Method> methods() {
+        Map<String, Method> found = new HashMap<>();
+        for (Method method : NoiseLamps.class.getDeclaredMethods()) {
+            found.put(method.getName(), method);
+        }
+        return found;
     }
 }
