@@ -112,6 +112,8 @@ public final class NoiseLamps {
         return noise.hasWall(wall) && isCut(cut) ? noise.changeCut(wall, cut) : BAD;
     }
 
+    // ---- lamps
+
     public int lamp(int distance, int light) {
         boolean told = isWithin(distance, 0, LAMP_REACH) && distance % LAMP_STEP == 0;
         if (!told || !isWithin(light, 0, MOST_LIGHT)) {
@@ -237,6 +239,7 @@ public final class NoiseLamps {
         private static final int MOST_WALLS = 8;
         private static final int FIRST_FALL = 30;
         private static final int TEN_METRES_SQUARED = 100;
+        private static final int MOST_DOUBLINGS = 10;
 
         private int pieces;
         private final int[] pieceX = new int[MOST_PIECES];
@@ -530,10 +533,12 @@ public final class NoiseLamps {
 
         private static int doublingsOf(int distanceSquared) {
             int doublings = 0;
-            // Twice as far is four times the square; as no square is above 200 million, 'next' stays
-            // an int.
-            for (int next = 4 * TEN_METRES_SQUARED; next <= distanceSquared; next *= 4) {
+            // Twice as far is four times the square. Points are less than 20,480 metres apart, so
+            // there are at most ten doublings, and 'next' stays an int.
+            int next = 4 * TEN_METRES_SQUARED;
+            while (doublings < MOST_DOUBLINGS && next <= distanceSquared) {
                 doublings++;
+                next *= 4;
             }
             return doublings;
         }
@@ -670,10 +675,10 @@ public final class NoiseLamps {
         }
 
         private int lightAt(int place, int spacing) {
-            int farthest = Math.min(length, place + LAMP_REACH);
+            int last = Math.min(length, place + LAMP_REACH) / spacing;
             int sum = 0;
-            for (int pole = firstPoleInReach(place, spacing); pole <= farthest; pole += spacing) {
-                sum += lightFrom(Math.abs(place - pole));
+            for (int pole = firstPoleInReach(place, spacing); pole <= last; pole++) {
+                sum += lightFrom(Math.abs(place - pole * spacing));
             }
             return sum;
         }
@@ -720,7 +725,7 @@ public final class NoiseLamps {
 
         private static int firstPoleInReach(int place, int spacing) {
             int unlit = place - LAMP_REACH;
-            return unlit <= 0 ? 0 : (unlit + spacing - 1) / spacing * spacing;
+            return unlit <= 0 ? 0 : (unlit + spacing - 1) / spacing;
         }
     }
 }

@@ -16,6 +16,8 @@ final class LanguageTest {
             "piece 5", "house 3", "wall 5", "fall 1", "malus 2", "gives 3", "level 2", "people 1", "loudest 2", "ranked 1",
             "needed 2", "recut 2", "lamp 2", "shines 1", "road 1", "dim 2", "at 3", "row 2", "spacing 2", "dark 2",
             "drop 3", "wired 3", "count 1"));
+    private static final Set<String> LAMPS = new TreeSet<>(Arrays.asList(
+            "lamp 2", "shines 1", "road 1", "dim 2", "at 3", "row 2", "spacing 2", "dark 2", "drop 3", "wired 3", "count 1"));
 
     public static void main(String[] args) throws IOException {
         face();
@@ -90,6 +92,17 @@ final class LanguageTest {
         Run.holds(!code.contains("->") && !code.contains("::"), "there is no lambda and no method reference");
         Run.holds(code.chars().allMatch(sign -> sign < 128), "all signs are plain ones");
         onlyConstructorsMake(code);
+        lampsHeading(new String(bytes, StandardCharsets.ISO_8859_1));
+    }
+
+    /** The document has the interface say ---- lamps ahead of the calls from lamp to count. */
+    private static void lampsHeading(String text) {
+        int heading = text.indexOf("// ---- lamps\n");
+        Run.holds(heading > text.indexOf("public int recut("), "the calls of noise come first");
+        for (String call : FACE) {
+            int at = text.indexOf("public int " + call.replaceAll(" .*", "("));
+            Run.holds(at >= 0 && at > heading == LAMPS.contains(call), call + " stands under its heading");
+        }
     }
 
     /** All calls of a run live in one room, so what an object needs is made with it. */
